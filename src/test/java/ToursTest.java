@@ -76,7 +76,7 @@ public final class ToursTest {
         x.pin(2, 5, 1);
         String[] hold = {"at 4 by 10", "at 2 by 5", "pinned", "depth<3", "depth>1", "depth=2",
             "bottom<6", "bottom>4", "bottom=5"};
-        String[] not = {"at 1 by 2", "at 0 by 5", "at 5 by 5", "depth<2", "depth>2", "depth=1",
+        String[] not = {"at 1 by 2", "at 0 by 5", "at 1 by 5", "at 2 by 7", "at 5 by 5", "depth<2", "depth>2", "depth=1",
             "depth=3", "bottom<5", "bottom>5", "bottom=6", "bottom=4", "bottom=0", "depth>9999"};
         for (String test : hold) {
             lives(x, "when " + test + ";flip;flip;end;flip;flip;", "5 0 0 0 0 0");

@@ -77,8 +77,10 @@ public final class TraysTest {
         Check.due("tray(3, 3, 60)", x.tray(3, 3, 60), true);
         Check.due(x, "read(3, 59)", x.read(3, 59), 0, 0);
         x.write(3, 59, 77);
+        x.write(3, 0, 78);
         x.tray(3, 3, 60);
         Check.due(x, "read(3, 59) of a TRAY made anew", x.read(3, 59), 0, 0);
+        Check.due(x, "read(3, 0) of a TRAY made anew", x.read(3, 0), 0, 0);
         x.write(3, 59, 77);
         Check.refused(x, "tray(3, 4, 2)", x.tray(3, 4, 2), 1);
         Check.due(x, "read(3, 59) behind a refused tray", x.read(3, 59), 77, 0);

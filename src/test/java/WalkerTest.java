@@ -104,6 +104,13 @@ public final class WalkerTest {
         y.go(1);
         y.flip();
         Check.due("told(5) of unlike ones", y.told(5), 3);
+        FareyRank z = new FareyRank();
+        z.jump(1, 4);
+        Check.due("wasAt(2, 3), not 1 by 4", z.wasAt(2, 3), 0);
+        Check.due("wasAt(3, 4), not 1 by 4", z.wasAt(3, 4), 0);
+        Check.due("wasAt(1, 3), not 1 by 4", z.wasAt(1, 3), 0);
+        z.jump(2, 3);
+        Check.due("told(5) of 1 by 2, 1 by 4, 2 by 3", z.told(5), 3);
     }
 
     private static void rule() {
