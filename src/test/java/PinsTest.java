@@ -59,6 +59,11 @@ public final class PinsTest {
         Check.due(x, "a 12th again", x.pin(12, 13, 1), 1, 0);
         Check.tells(x, "pinAt(11)", x.pinAt(11), 12, 13);
         Check.tells(x, "pinAt(1)", x.pinAt(1), 2, 13);
+        Check.tells(x, "heaviest() of 12", x.heaviest(), 1, 2);
+        Check.tells(x, "middle() of 12", x.middle(), 1, 2);
+        Check.tells(x, "gap() of 12", x.gap(), 2, 13);
+        Check.tells(x, "risingAt(11) of 12", x.risingAt(11), 12, 13);
+        Check.tells(x, "share(1, 1) of 12", x.share(1, 1), 1, 1);
     }
 
     private static void inOrder() {

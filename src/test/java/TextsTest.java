@@ -81,6 +81,7 @@ public final class TextsTest {
 
     private static void studyFaults() {
         studyFault("odds 4; #", 1, 8);
+        studyFault("x", 2, 0);
         studyFault("Odds 4;", 1, 0);
         studyFault("odds\t4;", 1, 4);
         studyFault("odds 12345;", 1, 5);
@@ -183,6 +184,8 @@ public final class TextsTest {
 
     private static void tourFaults() {
         tourFault("left;!", 1, 5);
+        tourFault("x", 2, 0);
+        tourFault("!", 1, 0);
         tourFault("pin 10000;", 1, 4);
         tourFault("odds 4;", 2, 0);
         tourFault("left right;", 2, 5);

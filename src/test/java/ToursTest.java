@@ -99,6 +99,8 @@ public final class ToursTest {
         Check.tells(x, "here()", x.here(), 1, 4);
         lives(x, "loop 2;loop 2;loop 2;up;end;end;end;", "15 6 2 0 0 0");
         lives(x, "loop 1;flip;end;", "2 0 0 0 0 0");
+        lives(x, "loop 9;stop;end;", "2 0 0 0 0 0");
+        lives(x, "when depth<9;flip;end;flip;", "3 0 0 0 0 0");
     }
 
     private static void limit() {
