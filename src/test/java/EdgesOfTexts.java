@@ -69,6 +69,11 @@ final class EdgesOfTexts extends Edges {
             "told(0) = 8");
         run("feed{" + BLANKS + "order 8;} = 900", "study(899) ! 9 2@899");
         fault("study", BLANKS + "order 8#", 1, 899);
+        // the last byte is of a NUMBER, of a WORD, a SIGN that can't stand there
+        fault("study", BLANKS + " order 8", 2, 900);
+        fault("study", BLANKS + "   order", 2, 900);
+        fault("study", BLANKS + "order 8<", 2, 899);
+        fault("study", BLANKS + "0000 111", 2, 892);
     }
 
     private static void tokens() {
@@ -97,6 +102,9 @@ final class EdgesOfTexts extends Edges {
         fault("study", "orders 8;", 2, 0);
         fault("study", "orde 8;", 2, 0);
         fault("study", "oddsorder 8;", 2, 0);
+        fault("study", "adds 8;", 2, 0);
+        fault("study", "oxds 8;", 2, 0);
+        fault("study", "oddx 8;", 2, 0);
         fault("study", "pin 1by 2weight3x;", 2, 16);
         each("study{odds 4;} = 0", "study{odds 04;} = 0", "study{odds 004;} = 0",
             "study{odds 0004;} = 0", "study{odds 0016;} = 0", "study{odds 0000;} = 0");
@@ -281,6 +289,8 @@ final class EdgesOfTexts extends Edges {
         run("feed{" + blanks + "up;up;}", "tours(299) ! 9 2@299");
         run("feed{" + blanks + "up;up;}", "tours(320) ! 1", "tours(MAX) ! 1", "study(3) = 0");
         fault("tours", blanks + "up#", 1, 299);
+        fault("tours", blanks + " up", 2, 300);
+        fault("tours", " ".repeat(295) + "pin 3", 2, 300);
         from();
         run("live(0) ! 6", "mean(0, 1) ! 6", "tours{} = 0", "live(0) = 0", "mean(0, 1) = 0/1");
     }
@@ -322,6 +332,9 @@ final class EdgesOfTexts extends Edges {
         fault("tours", "loop 2;end", 2, 10);
         fault("tours", "loop 2;end up;", 2, 11);
         fault("tours", "loop 2;ends;", 2, 7);
+        // a text is read anew, whatever was open in the one ahead
+        run("tours{loop 2;loop 2;} ! 9 2@14", "tours{end;} ! 9 2@0", "tours{loop 2;} ! 9 2@7",
+            "tours{up;} = 1", "live(0) = 1");
     }
 
     private static void numbersOfTours() {

@@ -163,6 +163,11 @@ final class EdgesOfTours extends Edges {
         livesThen("loop 3;loop 2;left;end;right;end;", 13, told(0, 9, 0, 0, 0), "told(6) = 9");
         livesThen("loop 2;loop 2;loop 2;left;end;end;end;", 15, told(0, 8, 0, 0, 0), "told(6) = 8");
         livesThen("loop 9;left;when depth=3;stop;end;end;", 8, told(0, 3, 0, 0, 0), "told(6) = 3");
+        // a when, a loop is not gone through more often for a loop that was left there ahead
+        from("tours{loop 9;stop;end;}", "live(0)");
+        livesThen("when depth=0;left;end;", 2, told(0, 1, 0, 0, 0), "told(6) = 1");
+        livesThen("loop 2;left;end;", 3, told(0, 2, 0, 0, 0), "told(6) = 2");
+        run("live(0) = 2", "live(0) = 2");
     }
 
     private static void limit() {
@@ -257,6 +262,11 @@ final class EdgesOfTours extends Edges {
         from("rule(1, 16)");
         lives("left;right;up;any;flip;any;", 6, 1, 4, 0, 0, 0);
         lives("left;pin 3;pin 4;lift;lift;pin 5;", 6, 1, 1, 3, 1, 0);
+        // each live() counts anew
+        from("tours{pin 3;lift;lift;left;}", "live(0)");
+        run("live(0) = 4", "lived(0) = 1", "lived(1) = 1", "lived(2) = 1", "lived(3) = 1");
+        from("tours{loop 99;loop 99;flip;end;end;}", "live(0)");
+        run("lived(4) = 1", "tours{flip;} = 1", "live(0) = 1", "lived(4) = 0");
     }
 
     private static void mean() {
@@ -273,6 +283,9 @@ final class EdgesOfTours extends Edges {
             "mean(9999, 0) ! 1", "mean(10000, 0) ! 1", "mean(9981, 20) ! 1",
             "mean(9980, 20) = " + meanOf(9980, 20), "mean(0, 20) = " + meanOf(0, 20),
             "mean(0, 1) = " + meanOf(0, 1), "mean(123, 7) = " + meanOf(123, 7));
+        // what lived() tells is of live() alone
+        from("tours{up;up;}", "live(0)", "jump(1, 9)");
+        run("mean(0, 3) = 5/1", "lived(0) = 2", "lived(1) = 0", "told(6) = 7");
         from();
         run("mean(0, 1) ! 6", "mean(9999, 1) ! 6", "mean(0, 20) ! 6", "mean(0, 0) ! 1",
             "mean(0, 21) ! 1", "mean(-1, 1) ! 1", "mean(10000, 1) ! 1", "mean(9999, 2) ! 1",

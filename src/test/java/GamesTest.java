@@ -43,16 +43,14 @@ public final class GamesTest {
     }
 
     private static void wrong() {
-        FareyRank x = new FareyRank();
-        Model model = new Model();
         for (int odds = 16; odds >= 0; odds--) {
-            x.rule(1, odds);
+            Model model = new Model();
             if (odds != 4) {
                 model.rule(1, odds);
-            } else {
-                model = new Model();
             }
             for (int n = 0; n <= 12; n++) {
+                FareyRank x = new FareyRank();
+                x.rule(1, odds);
                 for (int k = 0; k <= 12; k++) {
                     model.wrong(n, k);
                     Check.tells(x, "wrong(" + n + ", " + k + ") by ODDS " + odds, x.wrong(n, k),
@@ -60,7 +58,7 @@ public final class GamesTest {
                 }
             }
         }
-        x.rule(1, 4);
+        FareyRank x = new FareyRank();
         Check.tells(x, "wrong(2, 1)", x.wrong(2, 1), 7, 16);
         Check.tells(x, "wrong(0, 0)", x.wrong(0, 0), 1, 1);
         Check.tells(x, "wrong(0, 1)", x.wrong(0, 1), 0, 1);

@@ -20,7 +20,7 @@ public final class MarksTest {
             text.append(top).append('/').append(bottom).append('*').append(x.weight(top, bottom));
             text.append(' ');
         }
-        for (int bottom = 2; bottom < 10; bottom++) {
+        for (int bottom = 2; bottom < 8; bottom++) {
             for (int top = 1; top < bottom; top++) {
                 text.append(x.wasAt(top, bottom));
             }

@@ -9,8 +9,9 @@ import java.util.TreeMap;
 
 /** Random runs of calls, on FareyRank and on Model: every answer, STATUS and FRACTION is compared. */
 public final class ModelTest {
-    private static final int RUNS = 1200;
-    private static final int CALLS = 400;
+    private static final int RUNS = 3000;
+    /** What a call behind these answers is free. */
+    private static final int CALLS_MOST = 512;
     private static final List<String> WITHOUT_STATUS = List.of("feed", "fault");
 
     private final Random random;
@@ -19,6 +20,7 @@ public final class ModelTest {
     private final List<String> log = new ArrayList<>();
     private final int[][] pool = new int[8][2];
     private final boolean deep;
+    private int calls = 0;
 
     private ModelTest(long seed) {
         random = new Random(seed);
@@ -201,7 +203,20 @@ public final class ModelTest {
 
     private static final TreeMap<String, Integer> COUNTS = new TreeMap<>();
 
+    /** The FRACTION is asked where one may have been told, and at times else. */
+    private boolean sameFraction(String name) {
+        if (!isBoolean(name) && !chance(5)) {
+            return true;
+        }
+        calls += 2;
+        return real.top() == model.told.top() && real.bottom() == model.told.bottom();
+    }
+
     private boolean call(String name, Object... args) {
+        calls += 2;
+        if (calls + 2 > CALLS_MOST) {
+            return true;
+        }
         if (!WITHOUT_STATUS.contains(name)) {
             model.status = 0;
         }
@@ -211,12 +226,12 @@ public final class ModelTest {
             want = isBoolean(name) ? 0 : -1;
         }
         String call = name + Arrays.toString(args);
-        log.add(call + " = " + got + ", " + real.status());
+        int status = real.status();
+        log.add(call + " = " + got + ", " + status);
         if (!WITHOUT_STATUS.contains(name)) {
             COUNTS.merge(name + " " + model.status, 1, Integer::sum);
         }
-        boolean same = got == want && real.status() == model.status
-            && real.top() == model.told.top() && real.bottom() == model.told.bottom();
+        boolean same = got == want && status == model.status && sameFraction(name);
         Check.due("same answers to " + call, same, true);
         if (!same) {
             System.out.println("due is " + want + ", STATUS " + model.status + ", FRACTION "
@@ -338,7 +353,7 @@ public final class ModelTest {
         int runs = Integer.getInteger("runs", RUNS);
         for (long seed = from; seed < from + runs && bad < 3; seed++) {
             ModelTest run = new ModelTest(seed);
-            for (int i = 0; i < CALLS; i++) {
+            while (run.calls + 2 <= CALLS_MOST) {
                 if (!run.any()) {
                     bad++;
                     System.out.println("seed " + seed);

@@ -35,6 +35,7 @@ public final class RowTest {
             FareyRank x = ofOrder(order);
             int k = 0;
             for (Model.Frac f : Model.rowOf(order)) {
+                x = k % 50 == 0 ? ofOrder(order) : x;
                 Check.tells(x, "fraction(" + k + ")", x.fraction(k), f.top(), f.bottom());
                 int by = 9999 / (int) f.bottom();
                 Check.due(x, "place of " + f, x.place((int) f.top(), (int) f.bottom()), k, 0);

@@ -11,8 +11,8 @@ public final class TreeTest {
     }
 
     private static void depthsAndTurns() {
-        FareyRank x = new FareyRank();
         for (Model.Frac f : Model.rowOf(40)) {
+            FareyRank x = new FareyRank();
             int top = (int) f.top();
             int bottom = (int) f.bottom();
             if (!f.ofTree()) {
@@ -26,6 +26,7 @@ public final class TreeTest {
             }
             Check.refused(x, "no such turn to " + f, x.turnAt(top, bottom, way.size()), 6);
         }
+        FareyRank x = new FareyRank();
         Check.due("depth(1, 9999)", x.depth(1, 9999), 9997);
         Check.due("depth(9998, 9999)", x.depth(9998, 9999), 9997);
         Check.due("depth(4181, 6765)", x.depth(4181, 6765), 17);
@@ -50,6 +51,7 @@ public final class TreeTest {
     private static void parents() {
         FareyRank x = new FareyRank();
         for (Model.Frac f : Model.rowOf(40)) {
+            x = new FareyRank();
             if (f.bottom() > 2) {
                 Model.Frac p = Model.parentOf(f);
                 Check.tells(x, "parent of " + f, x.parent((int) f.top() * 7, (int) f.bottom() * 7),
