@@ -1,3 +1,4 @@
+import com.sun.source.tree.ClassTree;
 import com.sun.source.tree.CompilationUnitTree;
 import com.sun.source.tree.MethodInvocationTree;
 import com.sun.source.tree.MethodTree;
@@ -13,6 +14,7 @@ import java.util.LinkedHashSet;
 import java.util.Map;
 import java.util.Set;
 import javax.lang.model.element.Element;
+import javax.lang.model.element.ElementKind;
 import javax.tools.JavaCompiler;
 import javax.tools.StandardJavaFileManager;
 import javax.tools.ToolProvider;
@@ -86,6 +88,7 @@ public final class CallsTest {
     private static final class Gatherer extends TreePathScanner<Void, Void> {
         private final Trees trees;
         private Element method;
+        private Set<Element> ofFields;
 
         Gatherer(Trees trees) {
             this.trees = trees;
@@ -113,10 +116,26 @@ public final class CallsTest {
             return super.visitNewClass(tree, nothing);
         }
 
+        /** A field's first value is made by the constructors of its class. */
+        @Override
+        public Void visitClass(ClassTree tree, Void nothing) {
+            Set<Element> outer = ofFields;
+            ofFields = new LinkedHashSet<>();
+            super.visitClass(tree, nothing);
+            Element owner = trees.getElement(getCurrentPath());
+            for (Element member : owner.getEnclosedElements()) {
+                if (member.getKind() == ElementKind.CONSTRUCTOR) {
+                    CALLED.computeIfAbsent(member, m -> new LinkedHashSet<>()).addAll(ofFields);
+                }
+            }
+            ofFields = outer;
+            return null;
+        }
+
         private void note() {
             Element called = trees.getElement(getCurrentPath());
-            if (method != null && called != null) {
-                CALLED.get(method).add(called);
+            if (called != null) {
+                (method == null ? ofFields : CALLED.get(method)).add(called);
             }
         }
     }
